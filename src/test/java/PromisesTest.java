@@ -100,6 +100,10 @@ public final class PromisesTest {
     due("3: y", tell(x, "y60;"), 1);
     due("3: year", x.count(2), 60);
 
+    due("3: more letters", tell(x, "p0;p0;p0;"), 3);
+    due("3: what stood behind them is no more", tell(x, "p0"), -1002);
+    due("3: nor does it go on", tell(x, "l0"), -1002);
+
     LabelsByAnotherHand inOrder = of("p0;jj00040;y02;f05;l06;y01;");
     due("3: statements one by one, grace", inOrder.person(0, 1), 23);
     due("3: statements one by one, full", inOrder.pot(0, 4), 4);
@@ -403,7 +407,9 @@ public final class PromisesTest {
     LabelsByAnotherHand none = of("p0;jb03010;jt02290;");
     due("18: 3 off", none.label(0, 1), 3);
     LabelsByAnotherHand bare = of("p3;ja90090;");
-    due("18: none is less than a wrong one", bare.label(0, 9), 0);
+    due("18: honest is more than none", bare.label(0, 9), 0);
+    // The anvil takes all: only what is opened behind it stays, and of that none gains most.
+    due("18: none", of("p0;js80090;ja93190;").label(0, 18), 6);
   }
 
   private static void honestAndAudit() {
@@ -458,6 +464,7 @@ public final class PromisesTest {
     LabelsByAnotherHand gift = of("p0;p3;p3;jb03390;jj03310;");
     due("22: to one who likes it", gift.gift(3), 1);
     due("22: nothing now", gift.gift(0), -9);
+    due("22: in 20 years", gift.gift(20), 1);
     due("22: below", gift.gift(-1), -4);
     due("22: above", gift.gift(21), -6);
     due("22: it stays", gift.pot(0, 5), 0);
@@ -472,6 +479,7 @@ public final class PromisesTest {
 
     due("30: to the first who likes it", gift.heir(0, 3), 1);
     due("30: now: the least", gift.heir(0, 0), 0);
+    due("30: in 30 years", gift.heir(0, 30), 1);
     due("30: alike: the least", of("p0;p3;p3;jb03310;jj03310;").heir(0, 1), 1);
     due("30: no such pot", gift.heir(2, -1), -1);
     due("30: below", gift.heir(0, -1), -4);
@@ -553,7 +561,8 @@ public final class PromisesTest {
     due("28: never", of("p0;").fewest(20), -9);
     due("28: just", of("p0;").fewest(19), 0);
     due("28: of several the least", of("p0;ja93010;ja93010;ja93010;").fewest(3), 3);
-    // Least bits, not the first by pots: 3 alone is fewer than 0, 1 and 2 together.
+    due("28: one, though two with lesser numbers would do",
+        of("p0;ja42130;ja65210;ja81430;").fewest(9), 4);
     LabelsByAnotherHand one = of("p0;jj01030;jj01030;jj01030;ja93050;");
     due("28: one that helps most", one.fewest(20), 8);
     LabelsByAnotherHand gone = of("p0;ja93090;y02;");
@@ -566,6 +575,7 @@ public final class PromisesTest {
     due("29: in no years nothing", x.warn(0, 0), -9);
     due("29: in the first year all is well", x.warn(0, 1), -9);
     due("29: of another", x.warn(1, 1), 3);
+    due("29: in 30 years all is lost", x.warn(0, 30), -9);
     due("29: nobody", x.warn(2, -1), -1);
     due("29: below", x.warn(0, -1), -4);
     due("29: above", x.warn(0, 31), -6);
@@ -719,6 +729,10 @@ public final class PromisesTest {
     LabelsByAnotherHand one = of("p0;jj00000;");
     due("38: one lot", one.lots(1, 0, 0), 20 - 6);
     due("38: it stays", one.pot(0, 4), 0);
+    // Seed -1 becomes 1012239698: 3954061 modulo 7 is 6; then 806866057: 3151820 modulo 10 is 0.
+    // The next village's is 579071060: 2261996 modulo 7 is 2; then -1585484893, without its sign's
+    // bit 561998755: 2195307 modulo 10 is 7. So no spoons, then 6 that are 2 off.
+    due("38: two lots", one.lots(2, -1, 0), 14 + 8);
   }
 
   private static void imageAndOn() {

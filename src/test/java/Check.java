@@ -30,10 +30,14 @@ final class Check {
     }
   }
 
-  static int tell(LabelsByAnotherHand x, String letters) {
+  static void letters(LabelsByAnotherHand x, String letters) {
     for (int i = 0; i < letters.length(); i++) {
       x.letter(letters.charAt(i));
     }
+  }
+
+  static int tell(LabelsByAnotherHand x, String letters) {
+    letters(x, letters);
     return x.village();
   }
 

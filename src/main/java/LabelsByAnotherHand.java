@@ -17,6 +17,7 @@ public final class LabelsByAnotherHand {
   private static final int MOST_LETTERS = 96;
   private static final int MOST_ROW = 16;
   private static final int MOST_DEALT = 5;
+  private static final int WITHOUT_SIGN = 0x7fffffff;
   private static final String KIND_LETTERS = "jtsahb";
 
   private static final int NOBODY = -1;
@@ -747,7 +748,7 @@ public final class LabelsByAnotherHand {
   }
 
   private static int drawn(int seed, int below) {
-    return (seed & Integer.MAX_VALUE) / 256 % Math.max(1, below);
+    return (seed & WITHOUT_SIGN) / 256 % Math.max(1, below);
   }
 
   private static long power(int base, int exponent) {

@@ -75,6 +75,19 @@ public final class FaceTest {
     }
   }
 
+  /** Rule 4 lists functions of the library, so a constant of it (MAX_VALUE) is outside, too. */
+  private static void libraryIsTheRules(String code) {
+    Set<String> numbers = Set.of("Integer", "Long", "Math");
+    Matcher used = Pattern.compile("\\b([A-Z][a-z]\\w*)\\.(\\w+)(\\(?)").matcher(code);
+    while (used.find()) {
+      boolean isFunction = used.group(3).equals("(");
+      boolean isOwn = used.group(1).equals("Village");
+      boolean isCopy = used.group().equals("System.arraycopy(");
+      CHECK.holds("rules 4, 13: " + used.group() + " is listed",
+          isOwn || isCopy || isFunction && numbers.contains(used.group(1)));
+    }
+  }
+
   private static void textKeepsToTheRules(String source) {
     String code = source.replaceAll("(?s)/\\*.*?\\*/", "").replaceAll("//[^\n]*", "");
     String[] never = {
@@ -88,8 +101,7 @@ public final class FaceTest {
     CHECK.holds("rule 2: no lambda, no method reference",
         !code.contains("->") && !code.contains("::"));
     CHECK.holds("rule 4: nothing ends in Exact", !code.contains("Exact"));
-    CHECK.holds("rule 13: nothing of System but arraycopy",
-        !code.replace("System.arraycopy", "").contains("System"));
+    libraryIsTheRules(code);
     int lines = 0;
     String name = "";
     for (String line : code.split("\n")) {
